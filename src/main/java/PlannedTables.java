@@ -169,7 +169,7 @@ public final class PlannedTables {
         if (how == OUTPUT_FULL) {
             throw new UnsupportedOperationException("the output would be longer than 64 cells");
         }
-        latestVisits = latest.made;
+        latestVisits = latest.visited;
         return output.count;
     }
 
@@ -511,7 +511,7 @@ public final class PlannedTables {
         private final Plan plan;
         private final Output output;
         private final int fuel;
-        int made;
+        int visited;
         /** The one row that is on its way: no step gives a second one before this is done with. */
         private final int[] row = new int[MOST_WIDTH];
 
@@ -530,8 +530,8 @@ public final class PlannedTables {
             int last = plan.count - 1;
             int at = last;
             int news = ASK;
-            // No step gives more rows than there are visits, but for one at the end, and each row is
-            // asked for once and given once: this is never reached.
+            // Far above any need: no step gives more rows than there are visits and one at the end,
+            // and each is asked for once and given once.
             long most = (fuel + 4L) * 2 * MOST_STEPS;
             for (long moves = 0; moves < most && at >= 0; moves++) {
                 int does = react(plan.steps[at], news);
@@ -694,10 +694,10 @@ public final class PlannedTables {
             if (step.next >= table.count || table.cellAt(step.column, step.next) > step.high) {
                 return atEnd;
             }
-            if (made >= fuel) {
+            if (visited >= fuel) {
                 return OUT_OF_FUEL;
             }
-            made++;
+            visited++;
             copyCells(step.kept, row, step.wideBefore);
             table.copyRow(step.column, step.next, row, step.wideBefore);
             step.next++;

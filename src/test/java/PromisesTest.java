@@ -440,6 +440,11 @@ public final class PromisesTest {
             x.word(w < 39 ? 8 : 9);
         }
         due.same("12 missing behind 40 words", x.fault(), 40);
+        plan(x, 1, 0);
+        for (int w = 2; w < 40; w++) {
+            x.word(w < 39 ? 8 : 11);
+        }
+        due.same("12 the last of 40 words is looked at", x.fault(), 39);
     }
 
     private static void promise13Run() {
