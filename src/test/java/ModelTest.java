@@ -12,8 +12,10 @@ import java.util.function.Supplier;
 /** Long runs of calls, beside a second program that was written from the document in another way. */
 public final class ModelTest {
     private static final Due due = new Due();
-    private static final int OBJECTS = 1500;
+    private static final int OBJECTS = 4000;
     private static final int CALLS = 512;
+    /** What one planAndRun needs at most: words, and two runs whose output is read. */
+    private static final int ONE_PLAN = 230;
 
     public static void main(String[] args) {
         for (int seed = 0; seed < OBJECTS; seed++) {
@@ -388,7 +390,7 @@ public final class ModelTest {
             for (int t = 0; t < tables; t++) {
                 table(dice.nextInt(8) == 0 ? number(9) : 1 + dice.nextInt(4));
             }
-            while (calls < CALLS - 60) {
+            while (calls < CALLS - ONE_PLAN) {
                 int kind = dice.nextInt(20);
                 if (kind < 7) {
                     row();
@@ -473,7 +475,7 @@ public final class ModelTest {
                 }
             }
             int steps = dice.nextInt(6);
-            for (int s = 0; s < steps && calls < CALLS - 50; s++) {
+            for (int s = 0; s < steps && calls < CALLS - ONE_PLAN + 70; s++) {
                 step();
             }
             if (dice.nextInt(25) == 0) {
@@ -491,12 +493,14 @@ public final class ModelTest {
             same("run " + fuel, () -> x.run(fuel), () -> m.run(fuel));
             same("visits", x::visits, () -> m.visits);
             same("size", x::size, () -> m.output.size());
-            int[] got = new int[66];
-            int[] want = new int[66];
-            for (int i = 0; i < 66; i++) {
+            int many = m.output.size() + 2;
+            int[] got = new int[many];
+            int[] want = new int[many];
+            for (int i = 0; i < many; i++) {
                 got[i] = x.out(i - 1);
                 want[i] = m.out(i - 1);
             }
+            calls += many;
             due.holds("seed " + seed + " output of " + m.words, Arrays.equals(got, want));
         }
 
